@@ -676,9 +676,8 @@ public final class DrumTalk {
                 return;
             }
             beatsLeft--;
-            if (beatsLeft <= 0) {
+            if (beatsLeft == 0) {
                 drumming = NONE;
-                beatsLeft = 0;
             }
         }
     }

@@ -476,6 +476,28 @@ public final class DrumTalkTest {
         outside(land, "best(0, 3)", () -> land.best(0, 3));
         outside(land, "best(0, -1)", () -> land.best(0, -1));
         bestWithoutGain();
+        bestBehindEighty();
+    }
+
+    /** A village that is awake in the first beat of each day alone knows phrase 1, and drums three others ahead of it. */
+    private static void bestBehindEighty() {
+        DrumTalk land = new DrumTalk();
+        land.found(0, 0, 1);
+        land.phrase(11);
+        land.phrase(22);
+        land.setAwake(0, 0, 1);
+        land.tell(0, 1);
+        land.pass(18);
+        land.found(1, 0, 1);
+        for (int told = 0; told < 3; told++) {
+            land.tell(0, 0);
+        }
+        // It drums phrase 1 from 24 + 3 * 24 on, which is known next door behind 96 + 3 beats.
+        due("best(0, 1) behind 81 beats", land.best(0, 1), -1);
+        land.pass(1);
+        due("best(0, 1) behind 80 beats", land.best(0, 1), 0);
+        land.tell(0, 1);
+        due("reaches(1, 1)", land.reaches(1, 1), 80);
     }
 
     private static void bestWithoutGain() {
