@@ -1,83 +1,31 @@
 /** Tests of the promises 1 to 19, one method a promise and a few for the rules of a beat. */
-public final class DrumTalkTest {
-    private static int wrong = 0;
-    private static String part = "";
-
-    private interface Call {
-        void run();
-    }
-
-    private static void due(String call, long got, long want) {
-        if (got != want) {
-            wrong++;
-            System.out.println(part + ": " + call + " answered " + got + ", due is " + want);
-        }
-    }
-
-    private static void dueKnown(DrumTalk land, double want) {
-        if (land.known() != want) {
-            wrong++;
-            System.out.println(part + ": known() answered " + land.known() + ", due is " + want);
-        }
-    }
-
-    /** The call throws exactly this exception and changes nothing that the digest tells. */
-    private static void dueThrow(DrumTalk land, String call, Class<?> want, Call run) {
-        long before = land.digest();
-        Class<?> got = null;
-        try {
-            run.run();
-        } catch (RuntimeException e) {
-            got = e.getClass();
-        }
-        if (got != want) {
-            wrong++;
-            System.out.println(part + ": " + call + " threw " + got + ", due is " + want);
-        }
-        due(call + " and digest()", land.digest(), before);
-    }
-
-    private static void outside(DrumTalk land, String call, Call run) {
-        dueThrow(land, call, IndexOutOfBoundsException.class, run);
-    }
-
-    private static void illegalArgument(DrumTalk land, String call, Call run) {
-        dueThrow(land, call, IllegalArgumentException.class, run);
-    }
-
-    private static void illegalState(DrumTalk land, String call, Call run) {
-        dueThrow(land, call, IllegalStateException.class, run);
-    }
-
+public final class DrumTalkTest extends Checks {
     public static void main(String[] args) {
-        aNewObject();
-        found();
-        setDrum();
-        setCliff();
-        setAwake();
-        phrase();
-        tell();
-        village();
-        queue();
-        knows();
-        sounds();
-        count();
-        way();
-        pass();
-        reaches();
-        best();
-        larger();
-        known();
-        digest();
-        earshotAndTime();
-        drummingGoesOn();
-        echoes();
-        disturbances();
-        endsOfSounds();
-        System.out.println(wrong == 0 ? "all promises hold" : wrong + " answers are not as due");
-        if (wrong != 0) {
-            System.exit(1);
-        }
+        test(DrumTalkTest::aNewObject);
+        test(DrumTalkTest::found);
+        test(DrumTalkTest::setDrum);
+        test(DrumTalkTest::setCliff);
+        test(DrumTalkTest::setAwake);
+        test(DrumTalkTest::phrase);
+        test(DrumTalkTest::tell);
+        test(DrumTalkTest::village);
+        test(DrumTalkTest::queue);
+        test(DrumTalkTest::knows);
+        test(DrumTalkTest::sounds);
+        test(DrumTalkTest::count);
+        test(DrumTalkTest::way);
+        test(DrumTalkTest::pass);
+        test(DrumTalkTest::reaches);
+        test(DrumTalkTest::best);
+        test(DrumTalkTest::larger);
+        test(DrumTalkTest::known);
+        test(DrumTalkTest::digest);
+        test(DrumTalkTest::earshotAndTime);
+        test(DrumTalkTest::drummingGoesOn);
+        test(DrumTalkTest::echoes);
+        test(DrumTalkTest::disturbances);
+        test(DrumTalkTest::endsOfSounds);
+        end();
     }
 
     /** Villages 0, 1, 2 at x 0, 3, 6 in a row, each heard by its neighbours alone; phrases 0: 12, 1: 121, 2: 1212. */
@@ -93,29 +41,29 @@ public final class DrumTalkTest {
     }
 
     private static void aNewObject() {
-        part = "1 a new object";
+        part("1 a new object");
         DrumTalk land = new DrumTalk();
         for (int what = 0; what < 8; what++) {
             due("count(" + what + ")", land.count(what), 0);
         }
-        outside(land, "village(0, 0)", () -> land.village(0, 0));
+        outside(land, "village(0, 0)", it -> it.village(0, 0));
         dueKnown(land, 0);
     }
 
     private static void found() {
-        part = "2 found";
+        part("2 found");
         DrumTalk land = new DrumTalk();
-        illegalArgument(land, "found(-1, 0, 1)", () -> land.found(-1, 0, 1));
-        illegalArgument(land, "found(31, 0, 1)", () -> land.found(31, 0, 1));
-        illegalArgument(land, "found(0, -1, 1)", () -> land.found(0, -1, 1));
-        illegalArgument(land, "found(0, 31, 1)", () -> land.found(0, 31, 1));
-        illegalArgument(land, "found(0, 0, 0)", () -> land.found(0, 0, 0));
-        illegalArgument(land, "found(0, 0, 10)", () -> land.found(0, 0, 10));
-        illegalArgument(land, "found(smallest)", () -> land.found(Integer.MIN_VALUE, Integer.MIN_VALUE, 1));
+        illegalArgument(land, "found(-1, 0, 1)", it -> it.found(-1, 0, 1));
+        illegalArgument(land, "found(31, 0, 1)", it -> it.found(31, 0, 1));
+        illegalArgument(land, "found(0, -1, 1)", it -> it.found(0, -1, 1));
+        illegalArgument(land, "found(0, 31, 1)", it -> it.found(0, 31, 1));
+        illegalArgument(land, "found(0, 0, 0)", it -> it.found(0, 0, 0));
+        illegalArgument(land, "found(0, 0, 10)", it -> it.found(0, 0, 10));
+        illegalArgument(land, "found(smallest)", it -> it.found(Integer.MIN_VALUE, Integer.MIN_VALUE, 1));
         due("found(0, 30, 9)", land.found(0, 30, 9), 0);
         due("found(30, 0, 1)", land.found(30, 0, 1), 1);
-        illegalState(land, "found(0, 30, 1)", () -> land.found(0, 30, 1));
-        illegalArgument(land, "found(0, 30, 0)", () -> land.found(0, 30, 0));
+        illegalState(land, "found(0, 30, 1)", it -> it.found(0, 30, 1));
+        illegalArgument(land, "found(0, 30, 0)", it -> it.found(0, 30, 0));
         due("found(0, 0, 5)", land.found(0, 0, 5), 2);
         due("village(0, 0)", land.village(0, 0), 0);
         due("village(0, 1)", land.village(0, 1), 30);
@@ -125,8 +73,8 @@ public final class DrumTalkTest {
         for (int number = 3; number < 8; number++) {
             due("found(" + number + ", 1, 1)", land.found(number, 1, 1), number);
         }
-        illegalState(land, "found(20, 20, 1) as the ninth", () -> land.found(20, 20, 1));
-        illegalArgument(land, "found(20, 20, 10) as the ninth", () -> land.found(20, 20, 10));
+        illegalState(land, "found(20, 20, 1) as the ninth", it -> it.found(20, 20, 1));
+        illegalArgument(land, "found(20, 20, 10) as the ninth", it -> it.found(20, 20, 10));
         for (int beat = 0; beat < 24; beat++) {
             due("village(7, 4) in the beat " + beat, land.village(7, 4), 1);
             land.pass(1);
@@ -134,18 +82,18 @@ public final class DrumTalkTest {
     }
 
     private static void setDrum() {
-        part = "3 setDrum";
+        part("3 setDrum");
         DrumTalk land = row();
         due("setDrum(0, 9)", land.setDrum(0, 9), 1);
         due("setDrum(0, 2)", land.setDrum(0, 2), 9);
         due("village(0, 2)", land.village(0, 2), 2);
         due("village(1, 2)", land.village(1, 2), 1);
         due("way(0, 2)", land.way(0, 2), 1);
-        illegalArgument(land, "setDrum(0, 0)", () -> land.setDrum(0, 0));
-        illegalArgument(land, "setDrum(0, 10)", () -> land.setDrum(0, 10));
-        outside(land, "setDrum(3, 1)", () -> land.setDrum(3, 1));
-        outside(land, "setDrum(-1, 1)", () -> land.setDrum(-1, 1));
-        outside(land, "setDrum(3, 0)", () -> land.setDrum(3, 0));
+        illegalArgument(land, "setDrum(0, 0)", it -> it.setDrum(0, 0));
+        illegalArgument(land, "setDrum(0, 10)", it -> it.setDrum(0, 10));
+        outside(land, "setDrum(3, 1)", it -> it.setDrum(3, 1));
+        outside(land, "setDrum(-1, 1)", it -> it.setDrum(-1, 1));
+        outside(land, "setDrum(3, 0)", it -> it.setDrum(3, 0));
         // The size when the drumming begins counts, for sounds that are on their way too.
         land.tell(0, 0);
         land.pass(1);
@@ -155,7 +103,7 @@ public final class DrumTalkTest {
     }
 
     private static void setCliff() {
-        part = "4 setCliff";
+        part("4 setCliff");
         DrumTalk land = row();
         due("setCliff(1, true)", land.setCliff(1, true) ? 1 : 0, 0);
         due("setCliff(1, true)", land.setCliff(1, true) ? 1 : 0, 1);
@@ -164,8 +112,8 @@ public final class DrumTalkTest {
         due("setCliff(1, false)", land.setCliff(1, false) ? 1 : 0, 1);
         due("setCliff(1, false)", land.setCliff(1, false) ? 1 : 0, 0);
         due("village(1, 3)", land.village(1, 3), 0);
-        outside(land, "setCliff(3, true)", () -> land.setCliff(3, true));
-        outside(land, "setCliff(-1, true)", () -> land.setCliff(-1, true));
+        outside(land, "setCliff(3, true)", it -> it.setCliff(3, true));
+        outside(land, "setCliff(-1, true)", it -> it.setCliff(-1, true));
         // A cliff that comes when the drumming has begun makes no echo, and one that goes then takes none away.
         land.tell(0, 0);
         land.pass(1);
@@ -179,7 +127,7 @@ public final class DrumTalkTest {
     }
 
     private static void setAwake() {
-        part = "5 setAwake";
+        part("5 setAwake");
         DrumTalk land = row();
         due("setAwake(0, 22, 5)", land.setAwake(0, 22, 5), 24);
         due("setAwake(1, 23, 1)", land.setAwake(1, 23, 1), 24);
@@ -193,57 +141,57 @@ public final class DrumTalkTest {
             due("village(2, 4) in the beat " + beat, land.village(2, 4), hour == 23 ? 0 : 1);
             land.pass(1);
         }
-        illegalArgument(land, "setAwake(0, -1, 1)", () -> land.setAwake(0, -1, 1));
-        illegalArgument(land, "setAwake(0, 24, 1)", () -> land.setAwake(0, 24, 1));
-        illegalArgument(land, "setAwake(0, 0, 0)", () -> land.setAwake(0, 0, 0));
-        illegalArgument(land, "setAwake(0, 0, 25)", () -> land.setAwake(0, 0, 25));
-        outside(land, "setAwake(3, 0, 1)", () -> land.setAwake(3, 0, 1));
-        outside(land, "setAwake(-1, 24, 25)", () -> land.setAwake(-1, 24, 25));
+        illegalArgument(land, "setAwake(0, -1, 1)", it -> it.setAwake(0, -1, 1));
+        illegalArgument(land, "setAwake(0, 24, 1)", it -> it.setAwake(0, 24, 1));
+        illegalArgument(land, "setAwake(0, 0, 0)", it -> it.setAwake(0, 0, 0));
+        illegalArgument(land, "setAwake(0, 0, 25)", it -> it.setAwake(0, 0, 25));
+        outside(land, "setAwake(3, 0, 1)", it -> it.setAwake(3, 0, 1));
+        outside(land, "setAwake(-1, 24, 25)", it -> it.setAwake(-1, 24, 25));
         due("setAwake(0, 0, 24)", land.setAwake(0, 0, 24), 5);
     }
 
     private static void phrase() {
-        part = "6 phrase";
+        part("6 phrase");
         DrumTalk land = new DrumTalk();
         int[] none = {0, 1, 2, 3, 10, 13, 20, 21212120, 32, 102, 1211211211, 111111111, 222222222, -1, -11, -12,
             Integer.MAX_VALUE, Integer.MIN_VALUE};
         for (int tones : none) {
-            illegalArgument(land, "phrase(" + tones + ")", () -> land.phrase(tones));
+            illegalArgument(land, "phrase(" + tones + ")", it -> it.phrase(tones));
         }
         int[] some = {11, 12, 21, 22, 111, 2121, 12121, 212121, 2222222, 11111111, 22222222};
         for (int number = 0; number < some.length; number++) {
             due("phrase(" + some[number] + ")", land.phrase(some[number]), number);
         }
-        illegalState(land, "phrase(11) again", () -> land.phrase(11));
-        illegalState(land, "phrase(22222222) again", () -> land.phrase(22222222));
+        illegalState(land, "phrase(11) again", it -> it.phrase(11));
+        illegalState(land, "phrase(22222222) again", it -> it.phrase(22222222));
         due("phrase(112)", land.phrase(112), 11);
-        illegalState(land, "phrase(122) as the thirteenth", () -> land.phrase(122));
-        illegalArgument(land, "phrase(123) as the thirteenth", () -> land.phrase(123));
+        illegalState(land, "phrase(122) as the thirteenth", it -> it.phrase(122));
+        illegalArgument(land, "phrase(123) as the thirteenth", it -> it.phrase(123));
         due("count(2)", land.count(2), 12);
     }
 
     private static void tell() {
-        part = "7 tell";
+        part("7 tell");
         DrumTalk land = row();
         land.setAwake(0, 23, 1);
         due("tell(0, 2)", land.tell(0, 2), 1);
         due("tell(0, 0)", land.tell(0, 0), 2);
         due("tell(0, 2)", land.tell(0, 2), 3);
         due("tell(0, 2)", land.tell(0, 2), 4);
-        outside(land, "tell(3, 0)", () -> land.tell(3, 0));
-        outside(land, "tell(-1, 0)", () -> land.tell(-1, 0));
-        outside(land, "tell(0, 3)", () -> land.tell(0, 3));
-        outside(land, "tell(0, -1)", () -> land.tell(0, -1));
+        outside(land, "tell(3, 0)", it -> it.tell(3, 0));
+        outside(land, "tell(-1, 0)", it -> it.tell(-1, 0));
+        outside(land, "tell(0, 3)", it -> it.tell(0, 3));
+        outside(land, "tell(0, -1)", it -> it.tell(0, -1));
         due("tell(0, 0)", land.tell(0, 0), 5);
-        illegalState(land, "tell(0, 1)", () -> land.tell(0, 1));
-        outside(land, "tell(0, 3) to a full queue", () -> land.tell(0, 3));
+        illegalState(land, "tell(0, 1)", it -> it.tell(0, 1));
+        outside(land, "tell(0, 3) to a full queue", it -> it.tell(0, 3));
         due("knows(0, 1)", land.knows(0, 1), -1);
         due("knows(0, 2)", land.knows(0, 2), 0);
         due("tell(1, 0)", land.tell(1, 0), 1);
     }
 
     private static void village() {
-        part = "8 village";
+        part("8 village");
         DrumTalk land = row();
         land.setCliff(1, true);
         land.tell(1, 2);
@@ -262,10 +210,10 @@ public final class DrumTalkTest {
         dueVillage(land, 1, between);
         land.pass(1);
         dueVillage(land, 1, second);
-        outside(land, "village(3, 0)", () -> land.village(3, 0));
-        outside(land, "village(-1, 0)", () -> land.village(-1, 0));
-        outside(land, "village(0, -1)", () -> land.village(0, -1));
-        outside(land, "village(0, 10)", () -> land.village(0, 10));
+        outside(land, "village(3, 0)", it -> it.village(3, 0));
+        outside(land, "village(-1, 0)", it -> it.village(-1, 0));
+        outside(land, "village(0, -1)", it -> it.village(0, -1));
+        outside(land, "village(0, 10)", it -> it.village(0, 10));
     }
 
     private static void dueVillage(DrumTalk land, int number, int[] figures) {
@@ -276,9 +224,9 @@ public final class DrumTalkTest {
     }
 
     private static void queue() {
-        part = "9 queue";
+        part("9 queue");
         DrumTalk land = row();
-        outside(land, "queue(0, 0)", () -> land.queue(0, 0));
+        outside(land, "queue(0, 0)", it -> it.queue(0, 0));
         int[] phrases = {2, 0, 2, 1, 0};
         for (int phrase : phrases) {
             land.tell(0, phrase);
@@ -286,19 +234,19 @@ public final class DrumTalkTest {
         for (int index = 0; index < 5; index++) {
             due("queue(0, " + index + ")", land.queue(0, index), phrases[index]);
         }
-        outside(land, "queue(0, 5)", () -> land.queue(0, 5));
-        outside(land, "queue(0, -1)", () -> land.queue(0, -1));
-        outside(land, "queue(3, 0)", () -> land.queue(3, 0));
-        outside(land, "queue(-1, 0)", () -> land.queue(-1, 0));
+        outside(land, "queue(0, 5)", it -> it.queue(0, 5));
+        outside(land, "queue(0, -1)", it -> it.queue(0, -1));
+        outside(land, "queue(3, 0)", it -> it.queue(3, 0));
+        outside(land, "queue(-1, 0)", it -> it.queue(-1, 0));
         land.pass(1);
         for (int index = 0; index < 4; index++) {
             due("queue(0, " + index + ") later", land.queue(0, index), phrases[index + 1]);
         }
-        outside(land, "queue(0, 4)", () -> land.queue(0, 4));
+        outside(land, "queue(0, 4)", it -> it.queue(0, 4));
     }
 
     private static void knows() {
-        part = "10 knows";
+        part("10 knows");
         DrumTalk land = row();
         due("knows(0, 0)", land.knows(0, 0), -1);
         land.pass(7);
@@ -312,14 +260,14 @@ public final class DrumTalkTest {
         land.tell(1, 0);
         due("knows(0, 0)", land.knows(0, 0), 7);
         due("knows(1, 0)", land.knows(1, 0), 10);
-        outside(land, "knows(3, 0)", () -> land.knows(3, 0));
-        outside(land, "knows(-1, 0)", () -> land.knows(-1, 0));
-        outside(land, "knows(0, 3)", () -> land.knows(0, 3));
-        outside(land, "knows(0, -1)", () -> land.knows(0, -1));
+        outside(land, "knows(3, 0)", it -> it.knows(3, 0));
+        outside(land, "knows(-1, 0)", it -> it.knows(-1, 0));
+        outside(land, "knows(0, 3)", it -> it.knows(0, 3));
+        outside(land, "knows(0, -1)", it -> it.knows(0, -1));
     }
 
     private static void sounds() {
-        part = "11 sounds";
+        part("11 sounds");
         DrumTalk land = row();
         land.phrase(12121);
         land.setCliff(0, true);
@@ -337,12 +285,12 @@ public final class DrumTalkTest {
             land.pass(1);
         }
         due("count(6)", land.count(6), 4);
-        outside(land, "sounds(3)", () -> land.sounds(3));
-        outside(land, "sounds(-1)", () -> land.sounds(-1));
+        outside(land, "sounds(3)", it -> it.sounds(3));
+        outside(land, "sounds(-1)", it -> it.sounds(-1));
     }
 
     private static void count() {
-        part = "12 count";
+        part("12 count");
         DrumTalk land = row();
         land.setDrum(1, 2);
         land.tell(1, 0);
@@ -357,8 +305,8 @@ public final class DrumTalkTest {
         dueCount(land, new int[] {4, 3, 3, 0, 1, 2, 1, 3});
         land.pass(1);
         dueCount(land, new int[] {5, 3, 3, 1, 1, 3, 1, 4});
-        outside(land, "count(-1)", () -> land.count(-1));
-        outside(land, "count(8)", () -> land.count(8));
+        outside(land, "count(-1)", it -> it.count(-1));
+        outside(land, "count(8)", it -> it.count(8));
     }
 
     private static void dueCount(DrumTalk land, int[] figures) {
@@ -368,7 +316,7 @@ public final class DrumTalkTest {
     }
 
     private static void way() {
-        part = "13 way";
+        part("13 way");
         DrumTalk land = new DrumTalk();
         for (int number = 0; number < 8; number++) {
             land.found(number * 3, 0, 1);
@@ -382,11 +330,11 @@ public final class DrumTalkTest {
         due("way(7, 0)", land.way(7, 0), 5);
         land.setDrum(0, 7);
         due("way(0, 7)", land.way(0, 7), 1);
-        outside(land, "way(-1, 0)", () -> land.way(-1, 0));
-        outside(land, "way(8, 0)", () -> land.way(8, 0));
-        outside(land, "way(0, -1)", () -> land.way(0, -1));
-        outside(land, "way(0, 8)", () -> land.way(0, 8));
-        outside(land, "way(8, 8)", () -> land.way(8, 8));
+        outside(land, "way(-1, 0)", it -> it.way(-1, 0));
+        outside(land, "way(8, 0)", it -> it.way(8, 0));
+        outside(land, "way(0, -1)", it -> it.way(0, -1));
+        outside(land, "way(0, 8)", it -> it.way(0, 8));
+        outside(land, "way(8, 8)", it -> it.way(8, 8));
         DrumTalk pair = new DrumTalk();
         pair.found(0, 0, 1);
         pair.found(2, 2, 2);
@@ -398,11 +346,11 @@ public final class DrumTalkTest {
     }
 
     private static void pass() {
-        part = "14 pass";
+        part("14 pass");
         DrumTalk land = row();
-        illegalArgument(land, "pass(0)", () -> land.pass(0));
-        illegalArgument(land, "pass(201)", () -> land.pass(201));
-        illegalArgument(land, "pass(-1)", () -> land.pass(-1));
+        illegalArgument(land, "pass(0)", it -> it.pass(0));
+        illegalArgument(land, "pass(201)", it -> it.pass(201));
+        illegalArgument(land, "pass(-1)", it -> it.pass(-1));
         due("pass(200)", land.pass(200), 0);
         due("pass(1)", land.pass(1), 0);
         due("count(0)", land.count(0), 201);
@@ -416,7 +364,7 @@ public final class DrumTalkTest {
     }
 
     private static void reaches() {
-        part = "15 reaches";
+        part("15 reaches");
         DrumTalk land = row();
         land.tell(0, 2);
         long before = land.digest();
@@ -425,10 +373,10 @@ public final class DrumTalkTest {
         due("reaches(2, 2)", land.reaches(2, 2), 12);
         due("reaches(2, 1)", land.reaches(2, 1), -1);
         due("digest()", land.digest(), before);
-        outside(land, "reaches(3, 0)", () -> land.reaches(3, 0));
-        outside(land, "reaches(-1, 0)", () -> land.reaches(-1, 0));
-        outside(land, "reaches(0, 3)", () -> land.reaches(0, 3));
-        outside(land, "reaches(0, -1)", () -> land.reaches(0, -1));
+        outside(land, "reaches(3, 0)", it -> it.reaches(3, 0));
+        outside(land, "reaches(-1, 0)", it -> it.reaches(-1, 0));
+        outside(land, "reaches(0, 3)", it -> it.reaches(0, 3));
+        outside(land, "reaches(0, -1)", it -> it.reaches(0, -1));
         land.pass(6);
         due("reaches(1, 2)", land.reaches(1, 2), 0);
         due("reaches(2, 2)", land.reaches(2, 2), 6);
@@ -459,7 +407,7 @@ public final class DrumTalkTest {
     }
 
     private static void best() {
-        part = "16 best";
+        part("16 best");
         DrumTalk land = row();
         long before = land.digest();
         due("best(0, 0)", land.best(0, 0), 0);
@@ -471,10 +419,10 @@ public final class DrumTalkTest {
         due("best(0, 0) in the beat 5", land.best(0, 0), 3);
         land.tell(0, 1);
         due("best(0, 0) behind a phrase of 3 beats", land.best(0, 0), 0);
-        outside(land, "best(3, 0)", () -> land.best(3, 0));
-        outside(land, "best(-1, 0)", () -> land.best(-1, 0));
-        outside(land, "best(0, 3)", () -> land.best(0, 3));
-        outside(land, "best(0, -1)", () -> land.best(0, -1));
+        outside(land, "best(3, 0)", it -> it.best(3, 0));
+        outside(land, "best(-1, 0)", it -> it.best(-1, 0));
+        outside(land, "best(0, 3)", it -> it.best(0, 3));
+        outside(land, "best(0, -1)", it -> it.best(0, -1));
         bestWithoutGain();
         bestBehindEighty();
     }
@@ -524,7 +472,7 @@ public final class DrumTalkTest {
     }
 
     private static void larger() {
-        part = "17 larger";
+        part("17 larger");
         DrumTalk land = new DrumTalk();
         land.found(0, 0, 1);
         land.found(4, 0, 1);
@@ -540,9 +488,9 @@ public final class DrumTalkTest {
         due("digest()", land.digest(), before);
         land.setAwake(0, 0, 1);
         due("larger(20) to one that sleeps", land.larger(20), -1);
-        illegalArgument(land, "larger(0)", () -> land.larger(0));
-        illegalArgument(land, "larger(101)", () -> land.larger(101));
-        illegalArgument(land, "larger(-5)", () -> land.larger(-5));
+        illegalArgument(land, "larger(0)", it -> it.larger(0));
+        illegalArgument(land, "larger(101)", it -> it.larger(101));
+        illegalArgument(land, "larger(-5)", it -> it.larger(-5));
         DrumTalk nine = new DrumTalk();
         nine.found(0, 0, 9);
         nine.found(28, 0, 1);
@@ -557,7 +505,7 @@ public final class DrumTalkTest {
     }
 
     private static void known() {
-        part = "18 known";
+        part("18 known");
         DrumTalk land = new DrumTalk();
         dueKnown(land, 0);
         land.found(0, 0, 1);
@@ -577,7 +525,7 @@ public final class DrumTalkTest {
     }
 
     private static void digest() {
-        part = "19 digest";
+        part("19 digest");
         long empty = 769;
         for (int what = 0; what < 8; what++) {
             empty = empty * 31;
@@ -619,7 +567,7 @@ public final class DrumTalkTest {
     }
 
     private static void earshotAndTime() {
-        part = "terms: earshot and time";
+        part("terms: earshot and time");
         for (int distance = 1; distance <= 27; distance++) {
             DrumTalk land = new DrumTalk();
             int aside = distance / 3;
@@ -650,7 +598,7 @@ public final class DrumTalkTest {
     }
 
     private static void drummingGoesOn() {
-        part = "a beat: drumming";
+        part("a beat: drumming");
         DrumTalk land = new DrumTalk();
         land.found(0, 0, 1);
         land.phrase(12121212);
@@ -676,7 +624,7 @@ public final class DrumTalkTest {
     }
 
     private static void echoes() {
-        part = "a beat: echoes";
+        part("a beat: echoes");
         DrumTalk land = new DrumTalk();
         land.found(0, 0, 1);
         land.found(1, 0, 1);
@@ -710,7 +658,7 @@ public final class DrumTalkTest {
     }
 
     private static void disturbances() {
-        part = "a beat: disturbances";
+        part("a beat: disturbances");
         // Two sounds that share a beat in village 1 drown each other; else it hears the first, and drums in the second.
         for (int apart = 0; apart <= 3; apart++) {
             DrumTalk land = row();
@@ -753,7 +701,7 @@ public final class DrumTalkTest {
     }
 
     private static void endsOfSounds() {
-        part = "a beat: ends of sounds";
+        part("a beat: ends of sounds");
         // Two sounds end in one beat in village 1 but may not last together, so they drown; each ends once.
         DrumTalk land = row();
         land.tell(0, 0);
