@@ -380,30 +380,6 @@ public final class DrumTalkTest extends Checks {
         land.pass(6);
         due("reaches(1, 2)", land.reaches(1, 2), 0);
         due("reaches(2, 2)", land.reaches(2, 2), 6);
-        reachesBehindTwoHundred();
-    }
-
-    /** A row of villages that are awake for the 8 beats of the sound alone, and drum it on the next day. */
-    private static void reachesBehindTwoHundred() {
-        int[] x = {0, 12, 24, 30, 30, 30, 18, 6};
-        int[] y = {0, 0, 0, 6, 18, 30, 30, 30};
-        DrumTalk land = new DrumTalk();
-        land.phrase(12121212);
-        for (int number = 0; number < 8; number++) {
-            land.found(x[number], y[number], 4);
-            land.setAwake(number, number * 5 % 24, 8);
-        }
-        land.pass(8);
-        land.tell(0, 0);
-        // It begins in 24; each next one begins 5 + 24 beats later; the last one hears it in 24 + 6 * 29 + 5 + 7.
-        due("reaches(7, 0) behind 203", land.reaches(7, 0), -1);
-        land.pass(2);
-        due("reaches(7, 0) behind 201", land.reaches(7, 0), -1);
-        land.pass(1);
-        due("reaches(7, 0) behind 200", land.reaches(7, 0), 200);
-        due("pass(199)", land.pass(199), 6);
-        due("pass(1)", land.pass(1), 1);
-        due("knows(7, 0)", land.knows(7, 0), 210);
     }
 
     private static void best() {
@@ -424,28 +400,6 @@ public final class DrumTalkTest extends Checks {
         outside(land, "best(0, 3)", it -> it.best(0, 3));
         outside(land, "best(0, -1)", it -> it.best(0, -1));
         bestWithoutGain();
-        bestBehindEighty();
-    }
-
-    /** A village that is awake in the first beat of each day alone knows phrase 1, and drums three others ahead of it. */
-    private static void bestBehindEighty() {
-        DrumTalk land = new DrumTalk();
-        land.found(0, 0, 1);
-        land.phrase(11);
-        land.phrase(22);
-        land.setAwake(0, 0, 1);
-        land.tell(0, 1);
-        land.pass(18);
-        land.found(1, 0, 1);
-        for (int told = 0; told < 3; told++) {
-            land.tell(0, 0);
-        }
-        // It drums phrase 1 from 24 + 3 * 24 on, which is known next door behind 96 + 3 beats.
-        due("best(0, 1) behind 81 beats", land.best(0, 1), -1);
-        land.pass(1);
-        due("best(0, 1) behind 80 beats", land.best(0, 1), 0);
-        land.tell(0, 1);
-        due("reaches(1, 1)", land.reaches(1, 1), 80);
     }
 
     private static void bestWithoutGain() {
